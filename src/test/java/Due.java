@@ -1,8 +1,8 @@
 /** Notes every answer that is not the one that is due, and ends a test with exit code 1 if there was one. */
 final class Due {
     private static final int MOST_TOLD = 40;
-    private int asked;
-    private int wrong;
+    private long asked;
+    private long wrong;
 
     void is(String call, long got, long want) {
         asked++;

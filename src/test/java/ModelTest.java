@@ -1,16 +1,20 @@
 import java.util.Random;
+import java.util.function.IntPredicate;
+import java.util.stream.IntStream;
 
 /** Runs of calls drawn by lot, from seeds that are always the same, against the model: every answer and all that is told. */
 public final class ModelTest {
     private static final int CALLS = 480;
     private static final Due DUE = new Due();
+    // save, child, take, begin, commit, give; drop, at, rule, prune, follow; sweep, step, share, cut, open
+    private static final int[] USUAL_WEIGHTS = {30, 12, 10, 8, 8, 2, 3, 3, 3, 1, 3, 8, 14, 1, 2, 8};
 
     private final Random lot;
     private final SafeSweeps real;
     private final Model model;
     private final String name;
     private final StringBuilder told = new StringBuilder();
-    private final int powerCuts;
+    private final int[] weights;
     private final int wildness;
     private final int keys;
     private final int sizes;
@@ -22,14 +26,17 @@ public final class ModelTest {
         real = new SafeSweeps(capacity);
         model = new Model(capacity);
         name = "seed " + seed + " capacity " + capacity;
-        powerCuts = lot.nextInt(3);
-        wildness = 5 + lot.nextInt(40);
+        weights = USUAL_WEIGHTS.clone();
+        for (int i = 0; i < weights.length; i++) {
+            weights[i] = 1 + weights[i] * lot.nextInt(5);
+        }
+        wildness = 5 + lot.nextInt(60);
         keys = 1 + lot.nextInt(lot.nextBoolean() ? 6 : 60);
         sizes = 1 + lot.nextInt(24);
     }
 
     public static void main(String[] args) {
-        int runs = args.length > 0 ? Integer.parseInt(args[0]) : 600;
+        int runs = args.length > 0 ? Integer.parseInt(args[0]) : 400;
         for (int seed = 0; seed < runs && !DUE.anyWrong(); seed++) {
             new ModelTest(seed).run();
         }
@@ -60,13 +67,33 @@ public final class ModelTest {
         return wild() ? odd() : lot.nextInt(Math.max(1, bound));
     }
 
-    private int aSaver() {
-        return lot.nextInt(3) == 0 ? below(4) : below(2);
+    /** One of the numbers below the bound that the model says this of, if there is one. */
+    private int suchOne(int bound, IntPredicate such) {
+        int[] some = IntStream.range(0, bound).filter(such).toArray();
+        return wild() || some.length == 0 ? below(bound) : some[lot.nextInt(some.length)];
     }
 
-    private int aBlock() {
-        int made = real.count(0);
-        return lot.nextInt(3) == 0 ? below(made) : made - 1 - below(8);
+    private int aSaver() {
+        return suchOne(4, i -> model.saver(i, 0) == 0);
+    }
+
+    private int aSnapshot() {
+        return suchOne(40, i -> model.snapshot(i, 0) >= 0);
+    }
+
+    private int aBlock(int saver) {
+        int made = model.count(0);
+        switch (lot.nextInt(4)) {
+            case 0: return suchOne(made, i -> model.block(i, 4) > 0);
+            case 1: return suchOne(made, i -> model.block(i, 0) == 1);
+            case 2: return below(made);
+            default: return wild() ? odd() : model.saver(saver, 3 + lot.nextInt(8));
+        }
+    }
+
+    private int aUsedBlock(int saver) {
+        int used = Math.max(1, model.saver(saver, 1));
+        return lot.nextInt(6) == 0 ? aBlock(saver) : model.saver(saver, 3 + lot.nextInt(used));
     }
 
     private String due(String call, long got, long want) {
@@ -75,76 +102,102 @@ public final class ModelTest {
     }
 
     private String one() {
-        int pick = lot.nextInt(100);
-        if (pick < 26) {
-            int saver = aSaver(), size = wild() ? odd() : 1 + lot.nextInt(sizes);
-            long key = lot.nextInt(keys);
-            return due("save(" + saver + ", " + key + ", " + size + ")", real.save(saver, key, size), model.save(saver, key, size));
+        // else most calls would be refused in most runs
+        if (lot.nextInt(3) > 0 && model.count(13) == 1) {
+            return sweepCall(15);
         }
-        if (pick < 40) {
-            int saver = aSaver(), block = aBlock();
-            return due("child(" + saver + ", " + block + ")", real.child(saver, block), model.child(saver, block));
+        if (lot.nextInt(3) > 0 && model.count(6) == 0) {
+            return saverCall(3);
         }
-        if (pick < 50) {
-            int saver = aSaver(), block = aBlock();
-            return due("take(" + saver + ", " + block + ")", real.take(saver, block), model.take(saver, block));
+        int sum = 0;
+        for (int weight : weights) {
+            sum += weight;
         }
-        return pick < 75 ? saversAndSnapshots(pick) : sweepsAndPower(pick);
+        int pick = lot.nextInt(sum);
+        int kind = 0;
+        while (pick >= weights[kind]) {
+            pick -= weights[kind];
+            kind++;
+        }
+        return kind < 6 ? saverCall(kind) : kind < 11 ? snapshotCall(kind) : sweepCall(kind);
     }
 
-    private String saversAndSnapshots(int pick) {
-        if (pick < 57) {
-            int lease = wild() ? odd() : 1 + lot.nextInt(lot.nextBoolean() ? 20 : 100000);
-            return due("begin(" + lease + ")", real.begin(lease), model.begin(lease));
+    private String saverCall(int kind) {
+        int saver = aSaver();
+        switch (kind) {
+            case 0: {
+                int size = wild() ? odd() : 1 + lot.nextInt(sizes);
+                long key = lot.nextInt(keys);
+                return due("save(" + saver + ", " + key + ", " + size + ")", real.save(saver, key, size), model.save(saver, key, size));
+            }
+            case 1: {
+                int block = aUsedBlock(saver);
+                return due("child(" + saver + ", " + block + ")", real.child(saver, block), model.child(saver, block));
+            }
+            case 2: {
+                int block = aBlock(saver);
+                return due("take(" + saver + ", " + block + ")", real.take(saver, block), model.take(saver, block));
+            }
+            case 3: {
+                int lease = wild() ? odd() : 1 + lot.nextInt(lot.nextBoolean() ? 20 : 100000);
+                return due("begin(" + lease + ")", real.begin(lease), model.begin(lease));
+            }
+            case 4: {
+                int tag = below(4);
+                return due("commit(" + saver + ", " + tag + ")", real.commit(saver, tag), model.commit(saver, tag));
+            }
+            default:
+                return due("give(" + saver + ")", real.give(saver), model.give(saver));
         }
-        if (pick < 62) {
-            int saver = aSaver(), tag = below(4);
-            return due("commit(" + saver + ", " + tag + ")", real.commit(saver, tag), model.commit(saver, tag));
-        }
-        if (pick < 64) {
-            int saver = aSaver();
-            return due("give(" + saver + ")", real.give(saver), model.give(saver));
-        }
-        if (pick < 67) {
-            int snapshot = below(40);
-            return due("drop(" + snapshot + ")", real.drop(snapshot), model.drop(snapshot));
-        }
-        if (pick < 70) {
-            long[] far = {3, 30, 86400, 700000, 3000000, 40000000};
-            long t = wild() ? lot.nextLong() : now + (long) (lot.nextDouble() * far[lot.nextInt(far.length)]);
-            int answer = model.at(t);
-            now = answer == 1 ? t : now;
-            return due("at(" + t + ")", real.at(t), answer);
-        }
-        if (pick < 73) {
-            int kind = below(6), n = wild() ? odd() : lot.nextInt(kind == 5 ? 16 : 4);
-            return due("rule(" + kind + ", " + n + ")", real.rule(kind, n), model.rule(kind, n));
-        }
-        boolean word = lot.nextBoolean();
-        return due("prune(" + word + ")", real.prune(word), model.prune(word));
     }
 
-    private String sweepsAndPower(int pick) {
-        if (pick < 81) {
-            return due("sweep()", real.sweep(), model.sweep());
+    private String snapshotCall(int kind) {
+        switch (kind) {
+            case 6: {
+                int snapshot = aSnapshot();
+                return due("drop(" + snapshot + ")", real.drop(snapshot), model.drop(snapshot));
+            }
+            case 7: {
+                long[] far = {3, 30, 86400, 700000, 3000000, 40000000};
+                long t = wild() ? lot.nextLong() : now + (long) (lot.nextDouble() * far[lot.nextInt(far.length)]);
+                int answer = model.at(t);
+                now = answer == 1 ? t : now;
+                return due("at(" + t + ")", real.at(t), answer);
+            }
+            case 8: {
+                int rule = below(6), n = wild() ? odd() : lot.nextInt(rule == 5 ? 16 : 4);
+                return due("rule(" + rule + ", " + n + ")", real.rule(rule, n), model.rule(rule, n));
+            }
+            case 9: {
+                boolean word = lot.nextBoolean();
+                return due("prune(" + word + ")", real.prune(word), model.prune(word));
+            }
+            default: {
+                int mirror = below(2), n = wild() ? odd() : lot.nextInt(30);
+                return due("follow(" + mirror + ", " + n + ")", real.follow(mirror, n), model.follow(mirror, n));
+            }
         }
-        if (pick < 92) {
-            int n = wild() ? odd() : lot.nextInt(3) == 0 ? 500 : 1 + lot.nextInt(40);
-            return due("step(" + n + ")", real.step(n), model.step(n));
+    }
+
+    private String sweepCall(int kind) {
+        switch (kind) {
+            case 11:
+                return due("sweep()", real.sweep(), model.sweep());
+            case 12: {
+                int n = wild() ? odd() : lot.nextInt(3) == 0 ? 500 : 1 + lot.nextInt(40);
+                return due("step(" + n + ")", real.step(n), model.step(n));
+            }
+            case 13: {
+                int percent = wild() ? odd() : lot.nextInt(101);
+                return due("share(" + percent + ")", real.share(percent), model.share(percent));
+            }
+            case 14: {
+                int n = wild() ? odd() : lot.nextInt(30) - 1;
+                return due("cut(" + n + ")", real.cut(n), model.cut(n));
+            }
+            default:
+                return due("open()", real.open(), model.open());
         }
-        if (pick < 94) {
-            int percent = wild() ? odd() : lot.nextInt(101);
-            return due("share(" + percent + ")", real.share(percent), model.share(percent));
-        }
-        if (pick < 96 && lot.nextInt(3) < powerCuts) {
-            int n = wild() ? odd() : lot.nextInt(30) - 1;
-            return due("cut(" + n + ")", real.cut(n), model.cut(n));
-        }
-        if (pick < 98) {
-            return due("open()", real.open(), model.open());
-        }
-        int mirror = below(2), n = wild() ? odd() : lot.nextInt(30);
-        return due("follow(" + mirror + ", " + n + ")", real.follow(mirror, n), model.follow(mirror, n));
     }
 
     private void compareAll(String when) {
