@@ -1312,7 +1312,8 @@ public final class SafeSweeps {
         }
 
         static int dayOfMonth(long day) {
-            long inYear = dayOfMarchYear(dayOfEra(day));
+            long inEra = dayOfEra(day);
+            long inYear = dayOfMarchYear(inEra, marchYearOfEra(inEra));
             return (int) (inYear - daysBeforeMarchMonth(marchMonth(inYear))) + 1;
         }
 
@@ -1320,7 +1321,8 @@ public final class SafeSweeps {
         static long monthsUpTo(long day) {
             long era = Math.floorDiv(day + MARCH_OF_YEAR_0_TO_DAY_0, DAYS_IN_400_YEARS);
             long inEra = dayOfEra(day);
-            return 12 * (400 * era + marchYearOfEra(inEra)) + marchMonth(dayOfMarchYear(inEra)) + 2;
+            long year = marchYearOfEra(inEra);
+            return 12 * (400 * era + year) + marchMonth(dayOfMarchYear(inEra, year)) + 2;
         }
 
         static long dayOfEra(long day) {
@@ -1333,8 +1335,7 @@ public final class SafeSweeps {
             return (inEra - leapDays) / 365;
         }
 
-        static long dayOfMarchYear(long inEra) {
-            long year = marchYearOfEra(inEra);
+        static long dayOfMarchYear(long inEra, long year) {
             return inEra - (365 * year + year / 4 - year / 100);
         }
 

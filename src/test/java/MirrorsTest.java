@@ -6,6 +6,7 @@ public final class MirrorsTest {
         refusals();
         follows();
         followsWhileDown();
+        longestHistory();
         audit();
         DUE.end();
     }
@@ -94,6 +95,31 @@ public final class MirrorsTest {
         x.open();
         mirror(x, "mirrors stay", 1, 2, 2, 0, 0);
         DUE.is("what was not written is no history", x.count(12), 4);
+    }
+
+    /** All 80 blocks come and are freed, all 40 snapshots come and go. */
+    private static void longestHistory() {
+        SafeSweeps x = new SafeSweeps(100);
+        for (int i = 0; i < 40; i++) {
+            x.begin(10);
+            x.save(0, 2 * i, 1);
+            x.save(0, 2 * i + 1, 1);
+            DUE.is("commit", x.commit(0, 0), i);
+            x.drop(i - 9);
+        }
+        x.follow(0, 150);
+        mirror(x, "all 80 blocks, 10 snapshots", 0, 150, 80, 10, 0);
+        x.prune(true);
+        for (int i = 0; i < 2; i++) {
+            x.sweep();
+            x.step(500);
+        }
+        DUE.is("the longest history", x.count(12), 240);
+        DUE.is("follow to its end", x.follow(1, 500), 0);
+        mirror(x, "nothing is left", 1, 240, 0, 0, 0);
+        DUE.is("follow the rest", x.follow(0, 89), 1);
+        mirror(x, "one is left", 0, 239, 1, 0, 0);
+        DUE.is("the least block is freed last", x.has(0, 0), true);
     }
 
     private static void audit() {

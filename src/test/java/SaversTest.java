@@ -16,6 +16,7 @@ public final class SaversTest {
         blocksAndPacksRunOut();
         take();
         takeRevives();
+        takeRevivesOnlyWhatItReaches();
         commit();
         give();
         DUE.end();
@@ -231,11 +232,13 @@ public final class SaversTest {
         DUE.is("in another order it is another block", x.save(0, 1, 5), 5);
         x.child(0, 0);
         DUE.is("with fewer it is another block", x.save(0, 1, 5), 6);
+        x.child(0, 1);
+        DUE.is("with another one it is another block", x.save(0, 1, 5), 7);
         x.child(0, 0);
         x.child(0, 1);
         DUE.is("with the same ones it is found", x.save(0, 1, 5), 4);
         DUE.is("the row is empty then", x.saver(0, 2), 0);
-        DUE.is("a write for each new block only", x.count(8), 7);
+        DUE.is("a write for each new block only", x.count(8), 8);
     }
 
     private static void saveRoom() {
@@ -347,6 +350,29 @@ public final class SaversTest {
         DUE.is("child: a block that was freed", x.child(0, 3), SafeSweeps.UNKNOWN);
         x.child(0, 2);
         DUE.is("save: what was freed comes anew", x.save(0, 3, 1), 4);
+    }
+
+    private static void takeRevivesOnlyWhatItReaches() {
+        SafeSweeps x = new SafeSweeps(100);
+        x.begin(10);
+        x.save(0, 0, 1);
+        x.save(0, 1, 1);
+        x.save(0, 2, 1);
+        x.give(0);
+        x.sweep();
+        x.step(500);
+        x.begin(10);
+        DUE.is("take: itself", x.take(0, 1), 1);
+        x.sweep();
+        x.give(0);
+        x.step(500);
+        x.sweep();
+        x.step(500);
+        DUE.is("it waits again", x.block(1, 4), 3);
+        x.begin(10);
+        x.save(0, 5, 1);
+        DUE.is("take: a new one", x.take(0, 3), 0);
+        DUE.is("what was taken long ago waits still", x.block(1, 4), 3);
     }
 
     private static void commit() {

@@ -6,6 +6,7 @@ public final class SweepTest {
         emptyStore();
         refusals();
         rowAndPhases();
+        longestRow();
         secondSweepFrees();
         newBlocksDuringASweep();
         takesWhileItMarks();
@@ -14,6 +15,7 @@ public final class SweepTest {
         holes();
         share();
         packsAnewInOrderOfPlaces();
+        packsAnewManyInOrder();
         packsAnewTheLatest();
         packsAnewIntoTwo();
         packsRunOut();
@@ -131,6 +133,44 @@ public final class SweepTest {
         x.sweep();
         swept(x, "the next one", 1, 1, 4, -1);
         DUE.is("no block is marked as it begins", x.block(0, 5) + x.block(1, 5), 0);
+    }
+
+    /** Ten snapshots and four savers with eight blocks each, takes up to the last call, and four children a block. */
+    private static void longestRow() {
+        SafeSweeps x = new SafeSweeps(1000);
+        int calls = 0;
+        for (int i = 0; i < 10; i++) {
+            x.begin(1000);
+            x.save(0, 1000 + i, 1);
+            for (int j = 0; j < 4 && i > 0; j++) {
+                x.child(0, x.saver(0, 3));
+            }
+            for (int j = 1; j < 8; j++) {
+                x.save(0, 10 * i + j, 1);
+            }
+            x.commit(0, 0);
+            calls += i > 0 ? 14 : 10;
+        }
+        for (int i = 0; i < 4; i++) {
+            x.begin(1000);
+            for (int j = 0; j < 8; j++) {
+                x.take(i, j);
+            }
+            calls += 9;
+        }
+        x.sweep();
+        swept(x, "14 times 8", 1, 112, 80, -1);
+        int takes = 500 - calls;
+        for (int i = 0; i < takes; i++) {
+            x.take(0, 7);
+        }
+        swept(x, "and the takes", 1, 112 + takes, 80, -1);
+        int steps = 0;
+        for (int i = 0; i < 9 && x.swept(0) == 1; i++) {
+            steps += x.step(100);
+        }
+        DUE.is("marks, with 4 children of 9 blocks, and up to 99 clears", (steps - 1) / 100, (112 + takes + 4 * 9 - 1) / 100);
+        DUE.is("all are marked", x.block(0, 5) + x.block(79, 5), 2);
     }
 
     private static void secondSweepFrees() {
@@ -386,6 +426,34 @@ public final class SweepTest {
         lies(x, "not the first number", 0, 2, 5);
         DUE.is("pack 2 is new", x.count(4), 3);
         DUE.is("audit", x.audit(), 0);
+    }
+
+    private static void packsAnewManyInOrder() {
+        SafeSweeps x = new SafeSweeps(20);
+        x.begin(10);
+        x.begin(10);
+        x.save(0, 0, 1);
+        x.save(0, 1, 2);
+        x.save(0, 2, 3);
+        x.save(1, 3, 14);
+        x.save(0, 4, 4);
+        x.save(1, 5, 9);
+        x.save(0, 6, 1);
+        x.give(1);
+        sweepWhole(x);
+        sweepWhole(x);
+        // pack 0's three come behind 4, 5, 6 in pack 1; then pack 1 itself has 9 holes of 20, too few
+        lies(x, "behind the latest", 0, 1, 14);
+        lies(x, "behind the latest", 1, 1, 15);
+        lies(x, "behind the latest", 2, 1, 17);
+        x.share(45);
+        sweepWhole(x);
+        int[] order = {4, 6, 0, 1, 2};
+        int[] places = {0, 4, 5, 6, 8};
+        for (int i = 0; i < order.length; i++) {
+            lies(x, "by places, not by numbers", order[i], 2, places[i]);
+        }
+        packIs(x, "no holes are left", 2, 1, 11, 0, 5);
     }
 
     private static void packsAnewTheLatest() {
