@@ -18,6 +18,20 @@ final class Due {
         is(call, got ? 1 : 0, want ? 1 : 0);
     }
 
+    /** Two long tellings that must be equal: told is where they part. */
+    void same(String call, String got, String want) {
+        int at = 0;
+        while (at < got.length() && at < want.length() && got.charAt(at) == want.charAt(at)) {
+            at++;
+        }
+        boolean equal = got.equals(want);
+        is(equal ? call : call + ": \"" + around(got, at) + "\" and not \"" + around(want, at) + "\"", equal, true);
+    }
+
+    private static String around(String text, int at) {
+        return text.substring(Math.max(0, at - 30), Math.min(text.length(), at + 30)).replace('\n', ' ');
+    }
+
     boolean anyWrong() {
         return wrong > 0;
     }
