@@ -157,7 +157,8 @@ public final class SafeSweeps {
 
     private int takeFor(Saver one, int block) {
         store.reachNothing();
-        store.reachFrom(block);
+        store.startFrom(block);
+        store.reachOn();
         int revived = store.reviveReached();
         if (revived == LOST) {
             return losePower();
@@ -568,7 +569,8 @@ public final class SafeSweeps {
         for (int i = 0; i < snapshotsMade; i++) {
             if (one.snapshots[i]) {
                 store.reachNothing();
-                store.reachFromAll(snapshots[i].roots, snapshots[i].roots.length);
+                store.startFromAll(snapshots[i].roots, snapshots[i].roots.length);
+                store.reachOn();
                 broken += store.reachedOutside(one.blocks) > 0 ? 1 : 0;
             }
         }
@@ -593,15 +595,16 @@ public final class SafeSweeps {
         store.reachNothing();
         for (int i = 0; i < snapshotsMade; i++) {
             if (!snapshots[i].gone) {
-                store.reachFromAll(snapshots[i].roots, snapshots[i].roots.length);
+                store.startFromAll(snapshots[i].roots, snapshots[i].roots.length);
             }
         }
         for (int i = 0; i < MOST_SAVERS; i++) {
             if (savers[i].here) {
-                store.reachFromAll(savers[i].used, savers[i].usedCount);
+                store.startFromAll(savers[i].used, savers[i].usedCount);
             }
         }
-        store.reachFromThere();
+        store.startFromThere();
+        store.reachOn();
         return store.reachedButFreed();
     }
 
@@ -836,7 +839,7 @@ public final class SafeSweeps {
             return true;
         }
 
-        // children have lesser numbers, so one way down through the numbers finds all that is reached
+        // what some blocks reach: nothing at first, then where it starts from, then on to all children
 
         void reachNothing() {
             for (int i = 0; i < blocksMade; i++) {
@@ -844,32 +847,29 @@ public final class SafeSweeps {
             }
         }
 
-        void reachFrom(int block) {
+        void startFrom(int block) {
             reached[block] = true;
-            for (int i = block; i >= 0; i--) {
-                if (reached[i]) {
-                    reachChildren(i);
+        }
+
+        void startFromAll(int[] row, int length) {
+            for (int i = 0; i < length; i++) {
+                startFrom(row[i]);
+            }
+        }
+
+        void startFromThere() {
+            for (int i = 0; i < blocksMade; i++) {
+                if (!blocks[i].freed) {
+                    startFrom(i);
                 }
             }
         }
 
-        void reachChildren(int block) {
-            int[] children = blocks[block].children;
-            for (int i = 0; i < children.length; i++) {
-                reached[children[i]] = true;
-            }
-        }
-
-        void reachFromAll(int[] row, int length) {
-            for (int i = 0; i < length; i++) {
-                reachFrom(row[i]);
-            }
-        }
-
-        void reachFromThere() {
-            for (int i = 0; i < blocksMade; i++) {
-                if (!blocks[i].freed) {
-                    reachFrom(i);
+        /** Children have lesser numbers, so one way down through the numbers is enough. */
+        void reachOn() {
+            for (int i = blocksMade - 1; i >= 0; i--) {
+                if (reached[i]) {
+                    startFromAll(blocks[i].children, blocks[i].children.length);
                 }
             }
         }
@@ -1259,7 +1259,7 @@ public final class SafeSweeps {
             long latest = 0;
             for (int i = made - 1; i >= 0 && keptSoFar < numbers[kind]; i--) {
                 if (!snapshots[i].gone) {
-                    long period = kind == LAST ? i : periodOf(kind, Calendar.dayOf(snapshots[i].time));
+                    long period = periodOf(kind, i, Calendar.dayOf(snapshots[i].time));
                     if (keptSoFar == 0 || period != latest) {
                         kept[i] |= 1 << kind;
                         keptSoFar++;
@@ -1269,12 +1269,14 @@ public final class SafeSweeps {
             }
         }
 
-        static long periodOf(int kind, long day) {
+        /** For LAST each snapshot is a period of its own. */
+        static long periodOf(int kind, int snapshot, long day) {
             switch (kind) {
+                case DAYS: return day;
                 case WEEKS: return Calendar.weekOf(day);
                 case MONTHS: return Calendar.monthsUpTo(day);
                 case YEARS: return Calendar.yearOf(day);
-                default: return day;
+                default: return snapshot;
             }
         }
     }

@@ -4,30 +4,34 @@ import java.time.LocalDate;
 public final class CalendarTest {
     private static final Due DUE = new Due();
     private static final long END = 1000000000000L;
+    private static SafeSweeps x;
+    private static int compared;
 
     public static void main(String[] args) {
-        SafeSweeps x = new SafeSweeps(20);
         for (long day = -800000; day <= 800000; day += 1) {
-            compare(x, day * 86400 + Math.floorMod(day * 7919, 86400L));
+            compare(day * 86400 + Math.floorMod(day * 7919, 86400L));
         }
         for (long t = -END; t <= END; t += 86400L * 97 + 13) {
-            compare(x, t);
+            compare(t);
         }
         for (long year = -29700; year <= 33600; year++) {
             long newYear = LocalDate.of((int) year, 1, 1).toEpochDay() * 86400;
-            compare(x, newYear);
-            compare(x, newYear - 1);
+            compare(newYear);
+            compare(newYear - 1);
             long march = LocalDate.of((int) year, 3, 1).toEpochDay() * 86400;
-            compare(x, march);
-            compare(x, march - 1);
+            compare(march);
+            compare(march - 1);
         }
-        compare(x, -END);
-        compare(x, END);
-        outside(x);
+        compare(-END);
+        compare(END);
+        outside(new SafeSweeps(20));
         DUE.end();
     }
 
-    private static void compare(SafeSweeps x, long t) {
+    private static void compare(long t) {
+        // an object is promised to answer 512 calls
+        x = compared % 100 == 0 ? new SafeSweeps(20) : x;
+        compared++;
         LocalDate date = LocalDate.ofEpochDay(Math.floorDiv(t, 86400L));
         DUE.is("year of " + t, x.calendar(t, 0), date.getYear());
         DUE.is("month of " + t, x.calendar(t, 1), date.getMonthValue());

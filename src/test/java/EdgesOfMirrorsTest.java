@@ -16,6 +16,7 @@ public final class EdgesOfMirrorsTest {
         justWhatTheseLeave();
         itsSnapshotsAreWhole();
         hasAtItsEdges();
+        longestHistory();
         auditIsAlwaysNone();
         DUE.end();
     }
@@ -297,6 +298,28 @@ public final class EdgesOfMirrorsTest {
         DUE.is("mirror -1", x.has(-1, 0), false);
         DUE.is("mirror 2", x.has(2, 0), false);
         mirror(x, "all 80", 0, 80, 80, 0, 0);
+    }
+
+    /** 80 blocks and 40 snapshots at most, ever: each may come and go. */
+    private static void longestHistory() {
+        SafeSweeps x = new SafeSweeps(1000);
+        for (int i = 0; i < 40; i++) {
+            x.begin(10);
+            x.save(0, 2 * i, 1);
+            x.save(0, 2 * i + 1, 1);
+            x.commit(0, 0);
+            DUE.is("drop", x.drop(i), 1);
+        }
+        sweepWhole(x);
+        sweepWhole(x);
+        DUE.is("its length", x.count(12), 240);
+        DUE.is("all but one", x.follow(0, 239), 1);
+        mirror(x, "all but one", 0, 239, 1, 0, 0);
+        DUE.is("the least block is freed last", x.has(0, 0), true);
+        DUE.is("all", x.follow(0, 1), 0);
+        mirror(x, "all", 0, 240, 0, 0, 0);
+        DUE.is("in one", x.follow(1, 240), 0);
+        mirror(x, "in one", 1, 240, 0, 0, 0);
     }
 
     // audit(): "(it is always 0)"

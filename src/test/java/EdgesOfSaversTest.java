@@ -394,8 +394,8 @@ public final class EdgesOfSaversTest {
         x.begin(10);
         x.take(1, 0);
         x.take(1, 1);
-        int[][] rows = {{0, 1}, {1, 0}, {0}, {0, 1, 1}, {}};
-        int[] due = {2, 3, 4, 5, 6};
+        int[][] rows = {{0, 1}, {1, 1}, {0, 0}, {0}, {0, 1, 1}, {}};
+        int[] due = {2, 3, 4, 5, 6, 7};
         for (int i = 0; i < rows.length; i++) {
             for (int child : rows[i]) {
                 x.child(1, child);
@@ -408,17 +408,20 @@ public final class EdgesOfSaversTest {
         x.take(1, 1);
         x.child(1, 0);
         x.child(1, 1);
-        DUE.is("another size", x.save(1, 9, 2), 7);
+        DUE.is("another size", x.save(1, 9, 2), 8);
         x.child(1, 0);
         x.child(1, 1);
-        DUE.is("another key", x.save(1, 8, 3), 8);
+        DUE.is("another key", x.save(1, 8, 3), 9);
         x.child(1, 0);
         x.child(1, 1);
-        DUE.is("a key that differs above 32 bits", x.save(1, 9 + (1L << 32), 3), 9);
+        DUE.is("a key that differs above 32 bits", x.save(1, 9 + (1L << 32), 3), 10);
+        x.child(1, 1);
+        x.child(1, 0);
+        DUE.is("another order", x.save(1, 9, 3), 11);
         x.child(1, 0);
         x.child(1, 1);
         DUE.is("just the same", x.save(1, 9, 3), 2);
-        DUE.is("a write for each new one alone", x.count(8), 10);
+        DUE.is("a write for each new one alone", x.count(8), 12);
     }
 
     // "a block that is THERE": not one that was freed

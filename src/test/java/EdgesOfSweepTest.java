@@ -33,6 +33,7 @@ public final class EdgesOfSweepTest {
         shareAsItIsAtTheStep();
         shareOfAllHoles();
         movedAsNewOnes();
+        movedInTheOrderOfPlaces();
         latestPackIsPackedAnew();
         latestOneIsGone();
         packedAnewTwiceInASweep();
@@ -668,6 +669,27 @@ public final class EdgesOfSweepTest {
         sweepWhole(z);
         lies(z, "just as much room as it needs", 1, 1, 17);
         lies(z, "none is left", 2, 2, 0);
+    }
+
+    /** Places in another order than numbers come about by packing anew pack after pack. */
+    private static void movedInTheOrderOfPlaces() {
+        SafeSweeps x = holed(20, 3, -17, 2, -18, 1, -9);
+        sweepWhole(x);
+        lies(x, "first the one that was in the last pack", 4, 3, 0);
+        lies(x, "then the one that had come there from the first", 0, 3, 1);
+        lies(x, "then the one that had come there from the second", 2, 3, 4);
+        packIs(x, "all in one", 3, 1, 6, 0, 3);
+        x.save(0, 50, 4);
+        x.begin(1000);
+        x.save(1, 51, 10);
+        x.give(1);
+        sweepWhole(x);
+        sweepWhole(x);
+        int[] order = {4, 0, 2, 6};
+        int[] places = {0, 1, 4, 6};
+        for (int i = 0; i < order.length; i++) {
+            lies(x, "in the order of their places, not of their numbers", order[i], 4, places[i]);
+        }
     }
 
     // "(not into this pack: if it is the latest one, the first of them goes into a new pack)"
