@@ -138,7 +138,7 @@ public final class MirrorsTest {
             x.drop(round - 2);
             x.sweep();
             for (int i = 0; i < 200 && x.swept(0) > 0; i++) {
-                x.step(1);
+                x.step(9);
                 DUE.is("audit in round " + round, x.audit(), 0);
             }
             x.follow(round % 2, 5);

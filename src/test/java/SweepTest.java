@@ -143,7 +143,7 @@ public final class SweepTest {
             x.begin(1000);
             x.save(0, 1000 + i, 1);
             for (int j = 0; j < 4 && i > 0; j++) {
-                x.child(0, x.saver(0, 3));
+                x.child(0, 8 * i);
             }
             for (int j = 1; j < 8; j++) {
                 x.save(0, 10 * i + j, 1);
@@ -160,7 +160,7 @@ public final class SweepTest {
         }
         x.sweep();
         swept(x, "14 times 8", 1, 112, 80, -1);
-        int takes = 500 - calls;
+        int takes = 470 - calls;
         for (int i = 0; i < takes; i++) {
             x.take(0, 7);
         }
