@@ -1314,21 +1314,18 @@ public final class SafeSweeps {
         }
 
         static int dayOfMonth(long day) {
-            long inEra = dayOfEra(day);
+            long inEra = Math.floorMod(day + MARCH_OF_YEAR_0_TO_DAY_0, DAYS_IN_400_YEARS);
             long inYear = dayOfMarchYear(inEra, marchYearOfEra(inEra));
             return (int) (inYear - daysBeforeMarchMonth(marchMonth(inYear))) + 1;
         }
 
         /** The months from January of year 0 on up to that of the day. */
         static long monthsUpTo(long day) {
-            long era = Math.floorDiv(day + MARCH_OF_YEAR_0_TO_DAY_0, DAYS_IN_400_YEARS);
-            long inEra = dayOfEra(day);
+            long sinceMarch = day + MARCH_OF_YEAR_0_TO_DAY_0;
+            long era = Math.floorDiv(sinceMarch, DAYS_IN_400_YEARS);
+            long inEra = sinceMarch - era * DAYS_IN_400_YEARS;
             long year = marchYearOfEra(inEra);
             return 12 * (400 * era + year) + marchMonth(dayOfMarchYear(inEra, year)) + 2;
-        }
-
-        static long dayOfEra(long day) {
-            return Math.floorMod(day + MARCH_OF_YEAR_0_TO_DAY_0, DAYS_IN_400_YEARS);
         }
 
         /** With the leap days before it taken out, each year has 365 days. */
